@@ -91,6 +91,7 @@ public final class TilingTest {
         mended("x..x..x.", 1, 1);
         mended("x..x..xx", 2, 5);
         mended("3x3.3x3.3x9.", 3, 7);
+        mended("21x3.", 3, 7 << 21);
         mended("20x4.", TilingBeats.NONE, TilingBeats.NONE);
         mended("12x11.", TilingBeats.NONE, TilingBeats.NONE);
         mended(".", 1, 1);
