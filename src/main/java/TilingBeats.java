@@ -397,7 +397,7 @@ public final class TilingBeats {
                 int figures = figuresFrom(at);
                 length = Math.max(1, figures);
                 faultAt = at;
-                int fault = figures > 0 ? readNumber(at, figures) : readSign(letters[at]);
+                int fault = figures > 0 ? readNumber(at, figures) : readSign(letterAt(at));
                 if (fault != 0) {
                     return fault;
                 }
@@ -406,24 +406,28 @@ public final class TilingBeats {
             return times != 0 || beats == 0 ? 1 : 0;
         }
 
+        private int letterAt(int at) {
+            return at < 0 || at >= count || at >= letters.length ? NONE : letters[at];
+        }
+
         private int figuresFrom(int at) {
             int end = at;
-            while (end < count && letters[end] >= '0' && letters[end] <= '9') {
+            while (end < count && letterAt(end) >= '0' && letterAt(end) <= '9') {
                 end++;
             }
             return end - at;
         }
 
         private int readNumber(int at, int figures) {
-            if (times != 0 || letters[at] == '0') {
+            if (times != 0 || letterAt(at) == '0') {
                 return 1;
             }
             if (figures > 2) {
                 return 2;
             }
-            int number = letters[at] - '0';
+            int number = letterAt(at) - '0';
             if (figures == 2) {
-                number = 10 * number + letters[at + 1] - '0';
+                number = 10 * number + letterAt(at + 1) - '0';
             }
             if (number > MOST_BEATS) {
                 return 2;
@@ -471,23 +475,28 @@ public final class TilingBeats {
         }
 
         private void add(int beatsNow, int rhythmNow) {
-            beats[next] = beatsNow;
-            rhythms[next] = rhythmNow;
-            next = Ring.leftOver(next + 1, MOST_DEEDS);
+            beats[place()] = beatsNow;
+            rhythms[place()] = rhythmNow;
+            next++;
             count = Math.min(count + 1, MOST_DEEDS);
         }
 
         private void stepBack(int n) {
-            next = Ring.leftOver(next - n, MOST_DEEDS);
+            next -= n;
             count -= n;
         }
 
+        /** Where the next deed goes, or the one that was stepped back to lies. */
+        private int place() {
+            return Ring.leftOver(next, MOST_DEEDS);
+        }
+
         private int beatsThen() {
-            return beats[next];
+            return beats[place()];
         }
 
         private int rhythmThen() {
-            return rhythms[next];
+            return rhythms[place()];
         }
     }
 
@@ -520,7 +529,7 @@ public final class TilingBeats {
         /** The turns of a rhythm by which all that was heard is so. */
         private int fitting(int n, int rhythm) {
             int open = Ring.full(n);
-            for (int i = 0; i < count; i++) {
+            for (int i = 0; i < count && i < MOST_HEARD; i++) {
                 if (heard[i] >= n) {
                     return 0;
                 }
@@ -805,7 +814,7 @@ public final class TilingBeats {
 
         /** With `most` lower than a rhythm's tilings, the search ends when so many are found. */
         private Tilings(int most) {
-            sets = new int[most];
+            sets = new int[Math.max(1, most)];
             struck = new int[MOST_BEATS];
             struckCount = 0;
             count = 0;
@@ -831,7 +840,7 @@ public final class TilingBeats {
         }
 
         private int at(int i) {
-            return i < 0 || i >= count ? NONE : sets[i];
+            return i < 0 || i >= count || i >= sets.length ? NONE : sets[i];
         }
 
         private void listStruck() {
@@ -846,7 +855,7 @@ public final class TilingBeats {
 
         /** The lowest open beat must be struck by just one copy: each of these is tried. */
         private static void cover(Tilings found, int covered, int shifts, int depth) {
-            if (found.count >= found.sets.length || depth > MOST_BEATS) {
+            if (found.count < 0 || found.count >= found.sets.length || depth > MOST_BEATS) {
                 return;
             }
             int open = Ring.inverted(found.beats, covered);
@@ -856,7 +865,7 @@ public final class TilingBeats {
                 return;
             }
             int lowest = Integer.numberOfTrailingZeros(open);
-            for (int i = 0; i < found.struckCount; i++) {
+            for (int i = 0; i < found.struckCount && i < found.struck.length; i++) {
                 int t = Ring.leftOver(lowest - found.struck[i], found.beats);
                 int copy = Ring.moved(found.beats, found.rhythm, t);
                 if ((copy & covered) == 0) {
@@ -868,7 +877,7 @@ public final class TilingBeats {
         /** Shell's sort: thousands of sets are too many to move one place at a time. */
         private void sort() {
             for (int step = count / 2; step > 0; step = step == 2 ? 1 : step * 5 / 11) {
-                for (int i = step; i < count; i++) {
+                for (int i = step; i < count && i < sets.length; i++) {
                     int set = sets[i];
                     int to = i;
                     while (to >= step && sets[to - step] > set) {

@@ -18,6 +18,7 @@ public final class FaceTest {
             "stretch(int)", "twice()", "cycle(int)", "drift(int)", "undo(int)", "hear(int,boolean)",
             "moves()", "listen()", "forget()", "seed(int)", "keep(int)", "goBack(int)");
     private static final List<String> CONSTANTS = List.of("NONE", "UNKNOWN", "OUTSIDE", "NOT", "FULL");
+    private static final int MOST_LINES = 60;
     private static final List<String> RULED_OUT = List.of("throw", "try", "catch", "synchronized",
             "assert", "import", "package", "protected", "volatile", "native", "Exception");
 
@@ -95,5 +96,23 @@ public final class FaceTest {
             due.holds("no " + sign, !code.contains(sign));
         }
         due.holds("signs 1 to 127 alone", text.chars().allMatch(sign -> sign > 0 && sign < 128));
+        methodsAreShort(text.split("\n"));
+    }
+
+    /** A method ends with the first brace that stands as far in as its head. */
+    private static void methodsAreShort(String[] lines) {
+        int methods = 0;
+        for (int from = 0; from < lines.length; from++) {
+            if (lines[from].matches(" +(public|private) [^=]*\\) \\{")) {
+                String end = lines[from].replaceAll("\\S.*", "") + "}";
+                int to = from;
+                while (to < lines.length && !lines[to].equals(end)) {
+                    to++;
+                }
+                due.holds("line " + (from + 1) + ": the method is short", to - from < MOST_LINES);
+                methods++;
+            }
+        }
+        due.holds("methods were seen", methods > FACE.size());
     }
 }
